@@ -121,6 +121,7 @@ public final class WriterTest {
         due("2: DOWN ahead of FULL", x.begin(), DOWN);
         due("2: recover()", x.recover(), 0);
         due("2: begun ones count after a crash too", x.begin(), FULL);
+        due("2: nothing of it is in the log", x.status(60), 5);
     }
 
     private static void promise2BeginInAFullLog() {
@@ -258,8 +259,14 @@ public final class WriterTest {
         due("5: write", x.write(1, 8, 9999), 6);
         due("5: write", x.write(1, 9, 0), 7);
         due("5: the greatest n", x.shift(1, 8, 9, 9999), 9);
-        due("5: read", x.read(1, 8), 0);
-        due("5: read", x.read(1, 9), 9999);
+        due("5: commit(1)", x.commit(1), 10);
+        due("5: shift", x.shift(2, 9, 0, 9000), 12);
+        due("5: begin()", x.begin(), 3);
+        due("5: the shift alone holds a", x.read(3, 9), LOCKED);
+        due("5: the shift alone holds b", x.read(3, 0), LOCKED);
+        due("5: read", x.read(3, 8), 0);
+        due("5: read", x.read(2, 9), 999);
+        due("5: read", x.read(2, 0), 9000);
     }
 
     private static void promise5ShiftRefused() {
@@ -593,6 +600,7 @@ public final class WriterTest {
         due("14: crash()", x.crash(), true);
         due("14: records of several copies, up to the gap", x.recover(), 2);
         due("14: point(0)", x.point(0), 4);
+        due("14: the last record was taken out too", x.copy(0, 3, 2), 1);
         RedoQuorum y = started();
         due("14: write", y.write(1, 0, 1), 1);
         due("14: write", y.write(1, 4, 1), 2);
@@ -768,6 +776,10 @@ public final class WriterTest {
         due("touching: LIVE copies that lack a record", y.read(2, 8), AWAY);
         due("touching: fault", y.fault(0, 3, 1), true);
         due("touching: one that lacks none", y.read(2, 8), 0);
+        due("touching: fault", y.fault(0, 3, 0), true);
+        due("touching: none again", y.read(2, 16), AWAY);
+        due("touching: fault", y.fault(0, 0, 1), true);
+        due("touching: copy 0 lacks none", y.read(2, 16), 0);
     }
 
     private static void touchingStallsAheadOfAway() {
