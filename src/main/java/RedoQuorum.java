@@ -38,7 +38,7 @@ public final class RedoQuorum {
         transactions = new Transactions();
         groups = new Group[GROUPS];
         for (int g = 0; g < GROUPS; g++) {
-            groups[g] = new Group(log, g);
+            groups[g] = new Group(g);
         }
         cache = new Cache();
         views = new int[REPLICAS];
@@ -156,7 +156,7 @@ public final class RedoQuorum {
         }
         boolean isNew = copy.take(l);
         if (up) {
-            copy.tellReach();
+            copy.tellReach(log);
             raiseDurable();
         }
         return isNew ? 2 : 1;
@@ -180,7 +180,7 @@ public final class RedoQuorum {
             return refusal;
         }
         StorageCopy copy = groups[g].copies[c];
-        copy.tellReach();
+        copy.tellReach(log);
         raiseDurable();
         return copy.reported;
     }
@@ -232,7 +232,7 @@ public final class RedoQuorum {
         log.cutAfter(last);
         up = true;
         for (int g = 0; g < GROUPS; g++) {
-            groups[g].tellReaches();
+            groups[g].tellReaches(log);
         }
         raiseDurable();
         transactions.finishAll();
@@ -266,7 +266,7 @@ public final class RedoQuorum {
         }
         switch (what) {
             case 1:
-                return copy.reach();
+                return copy.reach(log);
             case 2:
                 return copy.keptUpTo(log.size);
             default:
@@ -289,7 +289,7 @@ public final class RedoQuorum {
         if (!isReplica(r) || !isKey(key)) {
             return BAD;
         }
-        if (!groups[groupOfPage(pageOf(key))].serves(views[r])) {
+        if (!groups[groupOfPage(pageOf(key))].serves(views[r], log)) {
             return AWAY;
         }
         return log.endedValueUpTo(key, views[r]);
@@ -300,11 +300,12 @@ public final class RedoQuorum {
         if (refusal != OK) {
             return refusal;
         }
-        int limit = log.lowOf(durable);
+        StorageCopy copy = groups[g].copies[c];
+        int limit = Math.min(copy.reach(log), log.lowOf(durable));
         for (int r = 0; r < REPLICAS; r++) {
             limit = Math.min(limit, log.lowOf(views[r]));
         }
-        return groups[g].copies[c].foldUpTo(limit);
+        return copy.foldUpTo(limit);
     }
 
     public int cached(int p) {
@@ -375,7 +376,7 @@ public final class RedoQuorum {
         if (isAheadOfDurable(page) || (cache.isFull() && leaving == NO_PAGE)) {
             return STALL;
         }
-        if (!groups[groupOfPage(page)].serves(durable)) {
+        if (!groups[groupOfPage(page)].serves(durable, log)) {
             return AWAY;
         }
         if (cache.isFull()) {
@@ -681,15 +682,13 @@ public final class RedoQuorum {
         private static final int STOPPED = 1;
         private static final int LOST = 2;
 
-        private final Log log;
         private final int group;
         private final boolean[] held = new boolean[Log.CAPACITY + 1];
         private int state = LIVE;
         private int fold = 0;
         private int reported = 0;
 
-        StorageCopy(Log itsLog, int itsGroup) {
-            log = itsLog;
+        StorageCopy(int itsGroup) {
             group = itsGroup;
         }
 
@@ -724,7 +723,7 @@ public final class RedoQuorum {
 
         int takeAllOf(StorageCopy other) {
             int taken = 0;
-            for (int l = 1; l <= log.size; l++) {
+            for (int l = 1; l <= Log.CAPACITY; l++) {
                 if (other.held[l] && take(l)) {
                     taken++;
                 }
@@ -734,12 +733,12 @@ public final class RedoQuorum {
         }
 
         void dropAfter(int last) {
-            for (int l = last + 1; l <= log.size; l++) {
+            for (int l = last + 1; l <= Log.CAPACITY; l++) {
                 held[l] = false;
             }
         }
 
-        int reach() {
+        int reach(Log log) {
             int reach = 0;
             for (int l = 1; l <= log.size; l++) {
                 if (log.group[l] == group) {
@@ -752,11 +751,11 @@ public final class RedoQuorum {
             return reach;
         }
 
-        void tellReach() {
-            reported = reach();
+        void tellReach(Log log) {
+            reported = reach(log);
         }
 
-        boolean holdsAllUpTo(int limit) {
+        boolean holdsAllUpTo(int limit, Log log) {
             for (int l = 1; l <= limit; l++) {
                 if (log.group[l] == group && !held[l]) {
                     return false;
@@ -776,9 +775,8 @@ public final class RedoQuorum {
         }
 
         int foldUpTo(int limit) {
-            int target = Math.min(limit, reach());
-            int folded = keptUpTo(target);
-            fold = Math.max(fold, target);
+            int folded = keptUpTo(limit);
+            fold = Math.max(fold, limit);
             return folded;
         }
     }
@@ -786,9 +784,9 @@ public final class RedoQuorum {
     private static final class Group {
         private final StorageCopy[] copies = new StorageCopy[COPIES];
 
-        Group(Log log, int number) {
+        Group(int number) {
             for (int c = 0; c < COPIES; c++) {
-                copies[c] = new StorageCopy(log, number);
+                copies[c] = new StorageCopy(number);
             }
         }
 
@@ -811,9 +809,9 @@ public final class RedoQuorum {
             return false;
         }
 
-        boolean serves(int limit) {
+        boolean serves(int limit, Log log) {
             for (int c = 0; c < COPIES; c++) {
-                if (copies[c].isLive() && copies[c].holdsAllUpTo(limit)) {
+                if (copies[c].isLive() && copies[c].holdsAllUpTo(limit, log)) {
                     return true;
                 }
             }
@@ -867,10 +865,10 @@ public final class RedoQuorum {
             }
         }
 
-        void tellReaches() {
+        void tellReaches(Log log) {
             for (int c = 0; c < COPIES; c++) {
                 if (copies[c].isLive()) {
-                    copies[c].tellReach();
+                    copies[c].tellReach(log);
                 }
             }
         }
