@@ -1,7 +1,13 @@
+import java.lang.reflect.InvocationTargetException;
+import java.lang.reflect.Method;
+import java.util.Map;
+import java.util.TreeMap;
+
 /** What every test of the project shares: it counts wrong answers, and makes a few common states. */
 final class Check {
     private static int wrong = 0;
     private static int looked = 0;
+    private static String current = "";
 
     private Check() {
     }
@@ -10,7 +16,7 @@ final class Check {
         looked++;
         if (got != want) {
             wrong++;
-            System.out.println(call + " answered " + got + ", due is " + want);
+            System.out.println(current + call + " answered " + got + ", due is " + want);
         }
     }
 
@@ -21,11 +27,46 @@ final class Check {
     static void wrong(String text) {
         looked++;
         wrong++;
-        System.out.println(text);
+        System.out.println(current + text);
     }
 
     static boolean anyWrong() {
         return wrong > 0;
+    }
+
+    /** Runs each method of the class whose name begins as said, as a test of its own. */
+    static void each(Class<?> tests, String beginning) throws ReflectiveOperationException {
+        Map<String, Method> byName = new TreeMap<>();
+        for (Method method : tests.getDeclaredMethods()) {
+            if (method.getName().startsWith(beginning) && method.getParameterCount() == 0) {
+                byName.put(method.getName(), method);
+            }
+        }
+        int failed = 0;
+        for (Method method : byName.values()) {
+            int before = wrong;
+            one(method);
+            failed += wrong > before ? 1 : 0;
+        }
+        System.out.println(byName.size() + " tests of " + tests.getName() + ", " + failed + " failed");
+        if (byName.isEmpty()) {
+            wrong(tests.getName() + " has no tests");
+        }
+    }
+
+    private static void one(Method test) throws IllegalAccessException {
+        current = test.getName() + ": ";
+        test.setAccessible(true);
+        int before = looked;
+        try {
+            test.invoke(null);
+        } catch (InvocationTargetException e) {
+            wrong("threw " + e.getCause());
+        }
+        if (looked == before) {
+            wrong("looked at nothing");
+        }
+        current = "";
     }
 
     static void end() {
@@ -66,7 +107,7 @@ final class Check {
         looked++;
         if (!got.toString().equals(ranks)) {
             wrong++;
-            System.out.println("cached(0 .. 7) answered " + got + ", due is " + ranks);
+            System.out.println(current + "cached(0 .. 7) answered " + got + ", due is " + ranks);
         }
     }
 }
