@@ -17,7 +17,14 @@ public final class ModelTest {
         {6, 4, 8, 6, 8, 3, 60, 1, 1, 1, 1, 3, 8, 10, 8, 1},
         {12, 12, 12, 20, 6, 5, 60, 6, 2, 2, 1, 2, 2, 2, 2, 2},
         {20, 1, 2, 1, 16, 6, 12, 1, 1, 1, 1, 3, 2, 2, 2, 2},
+        // Copies go and come while the writer stays up: touching and viewing are AWAY.
+        {8, 24, 8, 12, 6, 4, 30, 2, 2, 24, 0, 1, 4, 12, 2, 1},
     };
+
+    // The refusals of each of NAMES: runs that never met one of them would prove nothing of it.
+    private static final int[][] REFUSALS = {{-2, -5}, {-1, -2, -3, -4, -6, -7}, {-1, -2, -3, -4, -5, -6, -7},
+        {-1, -2, -3, -4, -5, -6, -7, -8}, {-2, -3}, {-2, -3}, {-1, 0}, {-1, -7}, {-1, -2, -7}, {0}, {0}, {-1, -7}, {-1, -2},
+        {-1, -7}, {-1, -2, -7}, {0}};
 
     private final Random random;
     private final RedoQuorum real = new RedoQuorum();
@@ -53,9 +60,11 @@ public final class ModelTest {
         Check.end();
     }
 
-    /** How often each call gave each refusal: a kind of answer that never came was not tested. */
     private static void tell(int[] reached, int longest) {
         for (int name = 0; name < NAMES.length; name++) {
+            for (int refusal : REFUSALS[name]) {
+                Check.due(NAMES[name] + " was refused by " + refusal, reached[name * 20 + refusal + 8] > 0, true);
+            }
             StringBuilder line = new StringBuilder(NAMES[name]).append(':');
             for (int a = 0; a < 20; a++) {
                 if (reached[name * 20 + a] > 0) {

@@ -15,10 +15,13 @@ public final class RefusalTest {
     private static final Set<Why> SIDE_B =
         EnumSet.of(Why.BAD, Why.DOWN, Why.IDLE, Why.LOCKED_B, Why.FULL, Why.STALL_B, Why.NO_ROOM, Why.AWAY_B);
 
-    /** Copy 2 of group 0 is STOPPED and would report 3, copy 5 is LOST, some fold, and transactions hold keys. */
-    private static final String BUSY = "begin = 1; write 1 0 5 = 1; commit 1 = 2; quorum 1..2; follow 0,1 = 2; collect 0 0 = 1; "
+    /**
+     * Copy 2 of group 0 is STOPPED and would report 3, copy 5 is LOST, copy 3 of group 1 is STOPPED and lacks
+     * record 4, copies 0 have a fold, and two transactions hold keys.
+     */
+    private static final String BUSY = "begin = 1; write 1 0 5 = 1; commit 1 = 2; quorum 1..2; follow 0,1 = 2; collect 0,1 0 = 1; "
         + "begin = 2; write 2 0 6 = 3; write 2 4 7 = 4; deliver 3 0,1,3 = 2; gossip 0 0 2 = 1; gossip 0 0 4 = 2; deliver 4 0..2 = 2; "
-        + "gossip 1 0 4 = 2; fault 0 2 0 = true; fault 0 5 2 = true; fault 1 1 0 = true; begin = 3; read 3 8 = 0; read 2 12 = 0; ";
+        + "gossip 1 0 4 = 2; fault 0 2 0 = true; fault 0 5 2 = true; fault 1 1,3 0 = true; begin = 3; read 3 8 = 0; read 2 12 = 0; ";
     /** Something is durable that the replicas have not followed, and something is held that is not durable. */
     private static final String BEHIND = "begin = 1; write 1 0 5 = 1; commit 1 = 2; quorum 1..2; follow 0 = 2; begin = 2; write 2 0 6 = 3; "
         + "write 2 8 7 = 4; commit 2 = 5; quorum 3..5; begin = 3; write 3 0 7 = 6; deliver 6 0..1 = 2; ";
@@ -305,6 +308,7 @@ public final class RefusalTest {
             Twins.same(BUSY + state, "deliver 3 2", "0");
             Twins.same(BUSY + state, "deliver 1 5", "0");
             Twins.same(BUSY + state, "deliver 4 1", "0");
+            Twins.same(BUSY + state, "deliver 4 3", "0");
         }
     }
 
@@ -316,7 +320,7 @@ public final class RefusalTest {
                 Twins.same(BUSY + state, call, "BAD");
             }
             for (String call : List.of("gossip 0 2 3", "gossip 0 0 2", "gossip 0 0 5", "gossip 0 5 0", "gossip 0 2 5", "gossip 0 5 2",
-                "gossip 1 1 5", "gossip 1 4 1")) {
+                "gossip 1 1 5", "gossip 1 4 1", "gossip 1 0 3", "gossip 1 3 5")) {
                 Twins.same(BUSY + state, call, "AWAY");
             }
         }
@@ -343,6 +347,7 @@ public final class RefusalTest {
             }
             Twins.same(BUSY + "fault 0 0..1 0 = true; " + state + "fault 0 3 0 = true; ", "fault 0 5 3", "false");
             Twins.same(BUSY + state + "fault 0 0 0 = true; fault 0 1 2 = true; ", "fault 0 5 3", "false");
+            Twins.same("begin = 1; write 1 0 5 = 1; deliver 1 0,1 = 2; fault 0 2..4 0 = true; fault 0 5 2 = true; " + state, "fault 0 5 3", "false");
         }
     }
 
@@ -364,7 +369,7 @@ public final class RefusalTest {
     private static void refusalsOfCrash() {
         Twins.same("crash = true; ", "crash", "false");
         Twins.same(BUSY + "crash = true; ", "crash", "false");
-        Twins.same(BUSY + "crash = true; deliver 4 3 = 2; ", "crash", "false");
+        Twins.same(BUSY + "crash = true; deliver 4 5 = 2; ", "crash", "false");
     }
 
     private static void refusalsOfRecover() {

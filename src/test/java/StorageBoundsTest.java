@@ -93,6 +93,17 @@ public final class StorageBoundsTest {
         Run.of("begin = 1; fill 1 0 3; deliver 1..3 0 = 2; gossip 0 0 5 = 3; gossip 0 0 5 = 0; copy 0 5 1 = 3");
     }
 
+    private static void promise10AnyCopyTellsAnyOther() {
+        for (int from = 0; from < 6; from++) {
+            for (int to = 0; to < 6; to++) {
+                if (from != to) {
+                    Run.of("begin = 1; write 1 4 5 = 1; deliver 1 " + from + " = 2; gossip 1 " + from + " " + to + " = 1; copy 1 " + to
+                        + " 1,2 = 1; gossip 1 " + to + " " + from + " = 0");
+                }
+            }
+        }
+    }
+
     private static void promise10OnlyWhatIsNewCounts() {
         Run.of("begin = 1; fill 1 0 4; deliver 1,2,3 0 = 2; deliver 3,4 1 = 2; gossip 0 0 1 = 2; copy 0 1 1 = 4; copy 0 0 1 = 3");
     }
@@ -100,6 +111,16 @@ public final class StorageBoundsTest {
     private static void promise10EitherCopyThatIsNotLiveIsAway() {
         Run.of("begin = 1; write 1 0 5 = 1; deliver 1 0..1 = 2; fault 0 0 0 = true; gossip 0 0 2 = AWAY; gossip 0 2 0 = AWAY; "
             + "fault 0 1 2 = true; gossip 0 1 2 = AWAY; gossip 0 2 1 = AWAY; gossip 0 0 1 = AWAY; copy 0 2 2 = 0; gossip 1 0 1 = 0");
+    }
+
+    private static void promise10ARefusedGossipTellsNothing() {
+        Run.of("begin = 1; write 1 0 5 = 1; deliver 1 0 = 2; fault 0 1 0 = true; gossip 0 0 1 = AWAY; fault 0 1 1 = true; copy 0 1 1,2 = 0");
+        Run.of("begin = 1; write 1 0 5 = 1; deliver 1 0 = 2; fault 0 0 0 = true; gossip 0 0 1 = AWAY; copy 0 1 1,2 = 0");
+    }
+
+    private static void promise10ARefusedGossipCarriesNoFold() {
+        Run.of(ONE_COMMITTED + "follow 0,1 = 2; collect 0 0 = 1; fault 0 1 0 = true; gossip 0 0 1 = AWAY; fault 0 1 1 = true; copy 0 1 2 = 1");
+        Run.of(ONE_COMMITTED + "follow 0,1 = 2; collect 0 0 = 1; fault 0 0 0 = true; gossip 0 0 1 = AWAY; copy 0 1 2 = 1");
     }
 
     private static void promise10BadIsNamedAheadOfAway() {
@@ -148,6 +169,16 @@ public final class StorageBoundsTest {
 
     private static void promise11ACopyThatIsNotLiveIsAway() {
         Run.of("fault 0 0 0 = true; fault 0 1 2 = true; report 0 0,1 = AWAY; report 1 0,1 = 0");
+    }
+
+    private static void promise11ARefusedReportReportsNothing() {
+        Run.of("begin = 1; write 1 0 5 = 1; deliver 1 0..2 = 2; gossip 0 0 3 = 1; fault 0 3 0 = true; report 0 3 = AWAY; point 1,2 = 0; "
+            + "fault 0 3 1 = true; point 1,2 = 0; report 0 3 = 1; point 1,2 = 1");
+    }
+
+    private static void promise11AReportToAWriterThatIsDownIsLost() {
+        Run.of("begin = 1; write 1 0 5 = 1; crash = true; deliver 1 0..3 = 2; report 0 0..3 = DOWN; fault 0 0 0 = true; recover = 1; "
+            + "point 1 = 0; fault 0 0 1 = true; point 1 = 0; report 0 0 = 1; point 1 = 1");
     }
 
     private static void promise11BadIsNamedAheadOfDown() {
@@ -220,6 +251,11 @@ public final class StorageBoundsTest {
         Run.of("fault 0 0 2 = true; fault 0 1..3 0 = true; fault 0 0 3 = false; fault 0 3 1 = true; fault 0 0 3 = true");
     }
 
+    private static void promise12ARefusedMendingGivesNothing() {
+        Run.of("begin = 1; write 1 0 5 = 1; deliver 1 0,1 = 2; fault 0 2..4 0 = true; fault 0 5 2 = true; fault 0 5 3 = false; "
+            + "fault 0 0,1 0 = true; fault 0 2..4 1 = true; fault 0 5 3 = true; copy 0 5 1,2 = 0");
+    }
+
     private static void promise12TheOtherGroupDoesNotMend() {
         Run.of("fault 0 0..5 2 = true; fault 0 0..5 3 = false; copy 1 0..5 0 = 0");
         Run.of("fault 1 0..3 2 = true; fault 1 0..3 3 = false; copy 0 0..5 0 = 0");
@@ -228,6 +264,17 @@ public final class StorageBoundsTest {
     private static void promise12AMendedOneHoldsWhatAnyLiveOneHolds() {
         Run.of("begin = 1; fill 1 0 4; deliver 1 1 = 2; deliver 2 2 = 2; deliver 3 5 = 2; deliver 4 4 = 2; fault 0 4 0 = true; "
             + "fault 0 0 2 = true; fault 0 0 3 = true; copy 0 0 1 = 3; copy 0 0 2 = 3");
+    }
+
+    private static void promise12AnyLiveCopyMendsAnyLostOne() {
+        for (int from = 0; from < 6; from++) {
+            for (int lost = 0; lost < 6; lost++) {
+                if (from != lost) {
+                    Run.of("begin = 1; write 1 0 5 = 1; deliver 1 " + from + " = 2; fault 0 " + lost + " 2 = true; fault 0 " + lost
+                        + " 3 = true; copy 0 " + lost + " 1,2 = 1");
+                }
+            }
+        }
     }
 
     private static void promise12AMendedOneHasTheGreatestFoldOfLiveOnes() {
@@ -324,6 +371,13 @@ public final class StorageBoundsTest {
         Run.of("fault 1 0..5 2 = true; view 0,1 4,31 = AWAY; view 0,1 0,27 = 0");
     }
 
+    private static void promise18AnyOneLiveCopyThatHoldsAllServes() {
+        for (int c = 0; c < 6; c++) {
+            Run.of(ONE_COMMITTED + "deliver 1 4..5 = 2; follow 0 = 2; fault 0 0..5 0 = true; view 0 0 = AWAY; fault 0 " + c
+                + " 1 = true; view 0 0 = 5");
+        }
+    }
+
     private static void promise18OneThatLacksARecordOfTheViewIsAway() {
         Run.of(ONE_COMMITTED + "follow 0 = 2; fault 0 0..3 0 = true; view 0 0,8 = AWAY; view 1 0 = 0; view 0 4 = 0; deliver 1 4 = 2; "
             + "view 0 0 = 5");
@@ -404,6 +458,11 @@ public final class StorageBoundsTest {
 
     private static void promise19ACopyThatIsNotLiveIsAway() {
         Run.of("fault 0 0 0 = true; fault 0 1 2 = true; collect 0 0,1 = AWAY; collect 0 2..5 = 0; collect 1 0,1 = 0");
+    }
+
+    private static void promise19ARefusedCollectFoldsNothing() {
+        Run.of(ONE_COMMITTED + "follow 0,1 = 2; fault 0 0 0 = true; collect 0 0 = AWAY; fault 0 0 1 = true; copy 0 0 2 = 1; crash = true; "
+            + "collect 0 0 = DOWN; copy 0 0 2 = 1");
     }
 
     private static void promise19BadIsNamedAheadOfDown() {

@@ -170,6 +170,16 @@ public final class TermsBoundsTest {
         }
     }
 
+    private static void termsTheFourthGreatestMayBeThatOfAnyCopy() {
+        for (int c = 0; c < 6; c++) {
+            Run run = Run.of("begin = 1; fill 1 0 2; deliver 1 " + c + " = 2");
+            for (int step = 1; step <= 3; step++) {
+                run.go("point 1 = 0; deliver 1,2 " + (c + step) % 6 + " = 2");
+            }
+            run.go("point 1,2 = 1");
+        }
+    }
+
     // The complete point.
 
     private static void termsTheCompletePointOfAnEmptyLogIs0() {
@@ -276,6 +286,13 @@ public final class TermsBoundsTest {
 
     private static void termsNoLiveCopyIsAwayEvenAtDurablePoint0() {
         Run.of("begin = 1; fault 0 0..5 0 = true; read 1 0 = AWAY; read 1 4 = 0; fault 0 5 1 = true; read 1 0 = 0");
+    }
+
+    private static void termsAnyOneLiveCopyThatHoldsAllServes() {
+        for (int c = 0; c < 6; c++) {
+            Run run = Run.of("begin = 1; write 1 0 5 = 1; deliver 1 0..5 = 2; fault 0 0..5 0 = true; read 1 8 = AWAY");
+            run.go("fault 0 " + c + " 1 = true; read 1 8 = 0; cache 20100000");
+        }
     }
 
     private static void termsALiveCopyThatLacksADurableRecordIsAway() {
@@ -416,6 +433,10 @@ public final class TermsBoundsTest {
 
     private static void termsTheLowCountsAnEndAtTheView() {
         Run.of("begin = 1; begin = 2; write 2 0 5 = 1; commit 2 = 2; quorum 1..2; follow 0,1 = 2; collect 0 0 = 2");
+    }
+
+    private static void termsTheLowCountsAnEndThatAborts() {
+        Run.of("begin = 1; begin = 2; write 2 0 5 = 1; abort 2 = 3; quorum 1..3; follow 0,1 = 3; collect 0 0 = 3; copy 0 0 2 = 0");
     }
 
     private static void termsTheLowDoesNotCountAnEndBehindTheView() {

@@ -17,6 +17,7 @@ final class Twins {
         Twins::endings,
         Twins::restarted,
         Twins::repaired,
+        Twins::turned,
         (run, told) -> lost(0, 1, run, told),
         (run, told) -> lost(5, -1, run, told),
         Twins::recovered);
@@ -138,6 +139,17 @@ final class Twins {
         for (int what = 0; what < 3; what++) {
             askCopies(run, told, "copy", " " + what);
         }
+    }
+
+    /** The STOPPED copies mend the LOST ones, while the others are away: so it shows whether a LOST one held something. */
+    private static void turned(Run run, List<String> told) {
+        for (int g = 0; g < 2; g++) {
+            for (int c = 0; c < 6; c++) {
+                String copy = g + " " + c;
+                ask(run, told, "fault " + copy + (run.answer("copy " + copy + " 0") == 0 ? " 0" : " 1"));
+            }
+        }
+        repaired(run, told);
     }
 
     /** The complete point sinks with each copy that is lost: so every reported point shows. */

@@ -358,12 +358,22 @@ public final class WriterBoundsTest {
     }
 
     private static void promise7TheLongestLogOfAllHas187Records() {
+        longestLog().go("point 0 = 187; deliver 187 5 = 2; deliver 188 5 = BAD; status 1..4 = 4; begin = FULL; "
+            + "crash = true; recover = 32; point 0 = 68");
+    }
+
+    private static void promise7The187thRecordIsHeldLikeAnyOther() {
+        longestLog().go("deliver 187 5 = 2; deliver 187 5 = 1; copy 0 5 2 = 1; gossip 0 5 4 = 1; copy 0 4 2 = 1; fault 0 4,5 2 = true; "
+            + "fault 0 5 3 = true; copy 0 5 1 = 28; deliver 187 5 = 2; fault 0 4 3 = true; deliver 187 4 = 1");
+    }
+
+    /** 32 changes, which are durable, of all keys by four transactions, then 119 of keys 31 and 30, then four are rolled back. */
+    private static Run longestLog() {
         Run run = Run.of("begin = 1; begin = 2; begin = 3; begin = 4");
         for (int key = 0; key < 32; key++) {
             run.go("write " + (1 + key / 8) + " " + key + " 50 = " + (key + 1) + "; quorum " + (key + 1));
         }
-        run.go("fill 4 31 149; shift 4 31 30 1 = 151; abort 1 = 160; abort 2 = 169; abort 3 = 178; abort 4 = 187; point 0 = 187; "
-            + "deliver 187 5 = 2; deliver 188 5 = BAD; status 1..4 = 4; begin = FULL; crash = true; recover = 32; point 0 = 68");
+        return run.go("fill 4 31 149; shift 4 31 30 1 = 151; abort 1 = 160; abort 2 = 169; abort 3 = 178; abort 4 = 187");
     }
 
     private static void promise7OnesThatAreDownAreNotAborted() {
@@ -466,6 +476,11 @@ public final class WriterBoundsTest {
     private static void promise14TwoLiveCopiesOfAGroupAreTooFew() {
         Run.of("fault 0 0..3 0 = true; crash = true; recover = AWAY; begin = DOWN; fault 0 3 1 = true; recover = 0; begin = 1");
         Run.of("fault 1 2..5 2 = true; crash = true; recover = AWAY; begin = DOWN");
+    }
+
+    private static void promise14ARefusedRecoveryLeavesAllAsItWas() {
+        Run.of("begin = 1; write 1 0 5 = 1; write 1 0 6 = 2; deliver 1 0 = 2; fault 0 1..4 0 = true; crash = true; recover = AWAY; point 0 = 2; "
+            + "status 1 = 1; begin = DOWN; deliver 2 0 = 2; fault 0 1 1 = true; recover = 2; point 0 = 4; status 1 = 4");
     }
 
     private static void promise14NoLiveCopyIsTooFew() {
