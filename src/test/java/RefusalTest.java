@@ -179,7 +179,7 @@ public final class RefusalTest {
         Why[] all = side.toArray(new Why[0]);
         for (int i = 0; i < 1 << all.length; i++) {
             Set<Why> whys = numbered(i, all);
-            Set<Why> telling = EnumSet.copyOf(whys.isEmpty() ? none() : whys);
+            Set<Why> telling = EnumSet.copyOf(whys);
             telling.remove(Why.FULL);
             // There is no key that is BAD and yet locked or on a page, but the scene stays as it is.
             String call = "read " + (whys.contains(Why.IDLE) ? 2 : 4) + " " + (whys.contains(Why.BAD) ? key + 32 : key);
@@ -208,6 +208,25 @@ public final class RefusalTest {
             String cache = cacheAfterOne(whys, key / 4);
             for (String value : whys.contains(Why.BAD) ? List.of("-1", "10000", "MIN", "MAX") : List.of("0")) {
                 Run.of(scene(whys)).go("write " + t + " " + key + " " + value + " = " + due + "; cache " + cache);
+            }
+        }
+    }
+
+    /** Each way to be BAD, and each of the others beside it. */
+    private static void refusalsByWrongArgumentsAreNamedFirst() {
+        for (Why other : Why.values()) {
+            Set<Why> whys = EnumSet.of(other);
+            String cache = "; cache " + (other == Why.DOWN ? "00000000" : "00432100");
+            String t = other == Why.IDLE ? "2 " : "4 ";
+            for (String args : List.of("-1 4 1", "32 4 1", "MIN 4 1", "MAX 4 1", "0 -1 1", "0 32 1", "0 MIN 1", "0 MAX 1", "0 0 1", "4 4 1",
+                "0 4 0", "0 4 -1", "0 4 10000", "0 4 MIN", "0 4 MAX")) {
+                Run.of(scene(whys)).go("shift " + t + args + " = BAD" + cache);
+            }
+            for (String args : List.of("-1 1", "32 1", "MIN 1", "MAX 1", "0 -1", "0 10000", "0 MIN", "0 MAX", "32 10000")) {
+                Run.of(scene(whys)).go("write " + t + args + " = BAD" + cache);
+            }
+            for (String key : List.of("-1", "32", "MIN", "MAX")) {
+                Run.of(scene(whys)).go("read " + t + key + " = BAD" + cache);
             }
         }
     }
