@@ -71,11 +71,16 @@ public final class FaceTest {
         Check.due("the class is public and final", Modifier.isPublic(m) && Modifier.isFinal(m), true);
     }
 
-    private static void membersAreHidden() {
+    private static Set<String> faceNames() {
         Set<String> face = new TreeSet<>();
         for (String method : METHODS) {
             face.add(method.substring(method.indexOf(' ') + 1, method.indexOf('(')));
         }
+        return face;
+    }
+
+    private static void membersAreHidden() {
+        Set<String> face = faceNames();
         for (Field field : RedoQuorum.class.getDeclaredFields()) {
             Check.due(field + " is hidden or of the face",
                 Modifier.isPrivate(field.getModifiers()) || CONSTANTS.containsKey(field.getName()), true);
@@ -90,6 +95,9 @@ public final class FaceTest {
         for (Class<?> nested : RedoQuorum.class.getDeclaredClasses()) {
             int m = nested.getModifiers();
             Check.due(nested + " is static and not seen", Modifier.isStatic(m) && !Modifier.isPublic(m), true);
+            for (Method method : nested.getDeclaredMethods()) {
+                Check.due(method + " bears no name of the face", faceNames().contains(method.getName()), false);
+            }
             for (Field field : nested.getDeclaredFields()) {
                 int f = field.getModifiers();
                 Check.due(field + " is no static state", !Modifier.isStatic(f) || Modifier.isFinal(f), true);

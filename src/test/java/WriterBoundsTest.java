@@ -639,6 +639,11 @@ public final class WriterBoundsTest {
         Run.of("begin = 1; read 1 0,8,16,24 = 0; cache 40302010; read 1 4 = 0; cache 01403020");
     }
 
+    private static void promise20APageThatHasGoneCountsNoMore() {
+        Run.of("begin = 1; write 1 0 5 = 1; read 1 4,8,12 = 0; cache 43210000; read 1 16 = 0; cache 40321000; read 1 20 = 0; "
+            + "cache 40032100");
+    }
+
     private static void promise20LookingDoesNotTouch() {
         Run.of("begin = 1; read 1 0,4,8,12 = 0; cached 0 = 4; cached 0 = 4; read 1 16 = 0; cached 0 = 0; cached 1 = 4");
     }
